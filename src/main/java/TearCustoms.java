@@ -1177,7 +1177,6 @@ public final class TearCustoms {
                 boolean product = sign == '*' || sign == '/';
                 if (!product && waiting != 0) {
                     law.write(waiting);
-                    waiting = 0;
                 }
                 if (!product && sign != '+' && sign != '-') {
                     return true;
@@ -1196,10 +1195,14 @@ public final class TearCustoms {
         }
 
         boolean divisor() {
-            if (!passNumber(10000, 0)) {
-                return false;
+            if (!isNumber()) {
+                return fail(1);
             }
-            law.write(number);
+            if (token == 0) {
+                return fail(2);
+            }
+            law.write(token);
+            advance();
             return true;
         }
 

@@ -71,6 +71,15 @@ public final class PromiseTest {
         is("one draw", x.look(9), 1664525 + 1013904223);
         x.state(Integer.MIN_VALUE);
         is("state", x.state(0), Integer.MIN_VALUE);
+        // From state 0 the first draw of 1000 is 563.
+        for (int find = 562; find <= 565; find++) {
+            TearCustoms y = new TearCustoms();
+            y.traveller(0, 0, 10);
+            y.officer(0, 0, 0);
+            y.set(1, 0, 4);
+            Check.fine(y, 0, "find " + find + ";", 1);
+            is("found by " + find, y.weigh(0, 0), find > 563 ? 4 : 0);
+        }
     }
 
     private static void travellersAndOfficers() {
@@ -319,6 +328,17 @@ public final class PromiseTest {
         is("lines after 60 hours", x.look(8), 150);
         is("basin goes on", x.look(4) > 150, true);
         is("the last line", x.book(149, 1), 1);
+        is("the last line", x.book(149, 3), 0);
+        int who = x.book(149, 2);
+        int hour = x.book(149, 0);
+        x.image(true);
+        for (int i = 0; i < 6; i++) {
+            x.undo();
+        }
+        x.image(false);
+        is("the last line of the image", x.book(149, 2), who);
+        is("the last line of the image", x.book(149, 0), hour);
+        x.hours(2);
         is("no more lines", x.book(150, 1), NONE);
         int state = x.look(9);
         is("undo", x.undo(), true);
@@ -376,6 +396,14 @@ public final class PromiseTest {
         Check.faulty(x, 0, "weepx 1;", 1, 0);
         Check.faulty(x, 0, "weepX 1;", 1, 0);
         Check.faulty(x, 0, "Weep 1;", 1, 0);
+        for (char c : "azAZ".toCharArray()) {
+            Check.faulty(x, 0, "weep" + c + " 1;", 1, 0);
+        }
+        for (char c : "@[`{:_".toCharArray()) {
+            Check.faulty(x, 0, "weep" + c + "1;", 1, 4);
+        }
+        Check.faulty(x, 0, "weep 1/1:;", 1, 8);
+        Check.faulty(x, 0, "weep 1/;", 1, 7);
         Check.faulty(x, 0, "weep 1", 1, 6);
         Check.faulty(x, 0, "weep 1  ", 1, 8);
         Check.faulty(x, 0, "weep 1;;", 1, 7);
@@ -848,6 +876,13 @@ public final class PromiseTest {
         is("altered -1", x.altered(-1), -10000);
         is("ledger 20", x.ledger(20, 1), true);
         is("two columns", x.altered(0), -10000);
+        TearCustoms y = new TearCustoms();
+        y.ledger(3, 5);
+        y.ledger(23, 5);
+        is("no column", y.altered(0), -10000);
+        y.ledger(23, 0);
+        y.ledger(16, 5);
+        is("no row", y.altered(0), -10000);
     }
 
     private static void years() {
@@ -1029,8 +1064,8 @@ public final class PromiseTest {
     }
 
     private static int[] thoughts(TearCustoms x) {
-        return new int[] {x.ordered(0), x.hands(0), x.crates(9, 1), x.suspects(0), x.likely(0, 1), x.won(1), x.altered(0),
-            x.dry(0), x.driest(0, 1, 50, 0), x.look(10), x.look(11), x.look(12), x.look(13), x.look(0), x.look(1), x.look(2),
+        return new int[] {x.ordered(0), x.hands(0), x.crates(9, 1), x.suspects(0), x.likely(0, 1), x.likely(5, 8), x.won(1),
+            x.altered(0), x.dry(0), x.driest(0, 1, 50, 0), x.look(10), x.look(11), x.look(12), x.look(13), x.look(0), x.look(1), x.look(2),
             x.look(3), x.look(4), x.look(5), x.look(6), x.look(7), x.look(8), x.look(9), x.book(0, 2), x.of(0, 2), x.who(0, 3),
             x.of(1, 3), x.of(1, 4), x.of(1, 1), x.of(1, 7), x.of(1, 8), x.of(0, 10), x.of(0, 20)};
     }
@@ -1049,6 +1084,7 @@ public final class PromiseTest {
         x.bag(7);
         x.weighed(1, 14);
         x.count(0, 0, 5);
+        x.count(5, 3, 500);
         x.salt(3);
         x.salt(8);
         x.ledger(3, 3);
@@ -1088,6 +1124,7 @@ public final class PromiseTest {
             x.weight(NONE);
             x.bag(NONE);
             x.count(0, 0, 900);
+            x.count(5, 3, 0);
             x.salt(NONE);
             x.ledger(3, 0);
             x.years(9, 0);
