@@ -498,6 +498,8 @@ public final class PromiseTest {
         is("the first that is so", x.of(0, 10), 2);
         is("the first", x.of(0, 8), 1);
         is("find", x.of(0, 20), 3);
+        Check.fine(x, 0, "rate 1 when 1=2;".repeat(15) + "rate 1+2*3 when 1=2 or 1=2 or 1=1 and 1+1=2*1;", 16);
+        is("the last line", x.of(0, 10), 7);
         Check.fine(x, 0, "rate 1 when 1=2;", 1);
         is("none is so", x.of(0, 10), 6);
         Check.fine(x, 0, "", 0);
