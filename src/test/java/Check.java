@@ -4,8 +4,22 @@ import java.nio.charset.StandardCharsets;
 final class Check {
     private static int wrong = 0;
     private static int asked = 0;
+    private static String about = "";
 
     private Check() {
+    }
+
+    /** What stands before all that is printed from now on. */
+    static void about(String words) {
+        about = words;
+    }
+
+    static int asked() {
+        return asked;
+    }
+
+    static int wrong() {
+        return wrong;
     }
 
     static void same(String what, long got, long want) {
@@ -13,7 +27,7 @@ final class Check {
         if (got != want) {
             wrong++;
             if (wrong <= 40) {
-                System.out.println(what + " answered " + got + ", due is " + want);
+                System.out.println(about + what + " answered " + got + ", due is " + want);
             }
         }
     }
