@@ -173,6 +173,7 @@ final class AnswerBounds extends Bounds {
         });
         holds(13, "gate: where he is AT (none: 0)", x -> {
             x.traveller(0, 0, 0);
+            is("none", tells(x, "weep gate+5;", 8), 5);
             Check.fine(x, 0, "weep gate;", 1);
             is("none", x.of(0, 8), 0);
             for (int g = 3; g >= 0; g--) {
@@ -206,7 +207,9 @@ final class AnswerBounds extends Bounds {
             x.set(3, 0, 3);
             x.set(3, 1, 7);
             x.act(0, 0, 0);
-            is("weep", tells(x, "weep nose+soft+tired;", 8), 0);
+            is("weep", tells(x, "weep 50+nose;", 8), 50);
+            is("weep", tells(x, "weep 50+soft;", 8), 50);
+            is("weep", tells(x, "weep 50+tired;", 8), 50);
             is("rate by 0", tells(x, "rate nose*25+soft*5+tired;", 10), 38);
             is("rate by 1", x.of(0, 11), 99);
             is("find by 0", tells(x, "find nose*100+soft*10+tired;", 20), 123);
@@ -234,6 +237,33 @@ final class AnswerBounds extends Bounds {
             Check.fine(x, 0, "weep 1 when 0=1;".repeat(15) + "weep 9;", 16);
             is("the sixteenth", x.of(0, 8), 9);
         });
+        holds(13, "B = A {or A}.  A = C {and C}.  C = E (< | = | >) E | not C | ( B ).", x -> {
+            x.traveller(0, 0, 0);
+            String[] c = {"1<2", "2<2", "3<2", "2=2", "1=2", "3>2", "2>2", "1>2"};
+            int[] so = {1, 0, 0, 1, 0, 1, 0, 0};
+            for (int i = 0; i < c.length; i++) {
+                is(c[i], tells(x, "weep 50 when " + c[i] + ";", 8), so[i] == 1 ? 50 : 9);
+                is("not " + c[i], tells(x, "weep 50 when not " + c[i] + ";", 8), so[i] == 1 ? 9 : 50);
+            }
+            for (int i = 0; i < 8; i++) {
+                truths(new TearCustoms(), (i & 1) == 1, (i & 2) == 2, (i & 4) == 4);
+            }
+        });
+    }
+
+    /** Three comparisons joined: and ahead of or, not ahead of both, ( ) ahead of all. */
+    private static void truths(TearCustoms x, boolean p, boolean q, boolean r) {
+        x.traveller(0, 0, 0);
+        String[] b = {"P or Q", "P and Q", "P or Q and R", "P and Q or R", "(P or Q) and R", "P and (Q or R)", "not P or Q",
+            "not P and Q", "not (P or Q)", "not (P and Q)", "P or (Q)", "P and (not (Q) or (R))", "P or Q or R", "P and Q and R",
+            "not not P and not (not Q)", "(P and (Q or (R and P))) or not R"};
+        boolean[] so = {p || q, p && q, p || q && r, p && q || r, (p || q) && r, p && (q || r), !p || q,
+            !p && q, !(p || q), !(p && q), p || q, p && (!q || r), p || q || r, p && q && r,
+            p && q, p && (q || r && p) || !r};
+        for (int i = 0; i < b.length; i++) {
+            String told = b[i].replace("P", p ? "1<2" : "2<1").replace("Q", q ? "2>1" : "1>2").replace("R", r ? "1=1" : "1=2");
+            is(b[i], tells(x, "weep 50 when " + told + ";", 8), so[i] ? 50 : 9);
+        }
     }
 
     private static void who() {

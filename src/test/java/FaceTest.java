@@ -69,7 +69,8 @@ public final class FaceTest {
     private static void language() throws IOException {
         String source = Files.readString(Path.of("src/main/java/TearCustoms.java"), StandardCharsets.ISO_8859_1);
         String[] ruledOut = {
-            "\\bthrow\\b", "\\btry\\b", "\\bcatch\\b", "\\bsynchronized\\b", "\\bassert\\b", "->", "::", "\\bimport\\b",
+            "\\bthrow\\b", "\\btry\\b", "\\bcatch\\b", "\\bsynchronized\\b", "\\bassert\\b", "->", "::",
+            "\\bimport\\b(?! java\\.util\\.(ArrayList|List|Arrays|Iterator);)",
             "\\bpackage\\b", "Exact\\b", "\\bSystem\\.(?!arraycopy)", "[^\\x00-\\x7f]", "\\bnew \\w+\\(.*\\)\\s*\\{",
             "\\.(equals|hashCode|toString)\\(", "\\bObject\\b", "\\bfinalize\\b", "\\bprotected\\b", "@"
         };

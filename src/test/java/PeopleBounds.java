@@ -80,6 +80,25 @@ final class PeopleBounds extends Bounds {
             unchanged(new TearCustoms(), () -> x.hours(3));
             is("another one's travellers", new TearCustoms().look(0), 0);
         });
+        holds(1, "An object is used for at most 512 calls after it has been made", x -> {
+            for (int i = 0; i < 255; i++) {
+                x.act(5, 3, 0);
+                x.act(4, 3, 0);
+            }
+            is("the 511th call", x.undo(), true);
+            is("the 512th call", x.look(6), 7);
+            TearCustoms y = new TearCustoms();
+            for (int i = 0; i < 127; i++) {
+                y.feed(0x77656570, 0x20373b77, 0x65657020, 0x383b7261, 0x74652031);
+                y.end(7);
+                y.text(0);
+                y.image(true);
+            }
+            is("the 509th call", y.traveller(0, 0, 0), 0);
+            is("the 510th call", y.of(0, 8), 7);
+            is("the 511th call", y.image(false), true);
+            is("the 512th call", y.look(10), 1);
+        });
         holds(1, "`NONE = -1`: None.", x -> is("NONE", TearCustoms.NONE, -1));
     }
 
@@ -336,6 +355,14 @@ final class PeopleBounds extends Bounds {
                 x.set(1, 0, wet[i]);
                 is("joke", x.act(1, 0, 0), true);
                 is("half of " + wet[i], x.of(0, 3), then[i]);
+            }
+        });
+        holds(6, "Quotients go downwards.", x -> {
+            x.traveller(0, 0, 0);
+            for (int wet = 1; wet < 99; wet += 2) {
+                x.set(1, 0, wet);
+                x.act(1, 0, 0);
+                is("half of " + wet, 2 * x.of(0, 3), wet - 1);
             }
         });
         holds(6, "To give an ONION to one not OUT: WET 20 more (99 at most).", x -> {

@@ -1,3 +1,6 @@
+import java.util.ArrayList;
+import java.util.Collections;
+import java.util.List;
 import java.util.Random;
 
 /** Random runs of calls on an object and on the Model: each answer, and all that can be looked at, must be the same. */
@@ -12,6 +15,7 @@ public final class RandomRunsTest {
     private final TearCustoms x = new TearCustoms();
     private final Model m = new Model();
     private final String run;
+    private int calls = 0;
 
     private RandomRunsTest(int seed) {
         dice = new Random(seed);
@@ -19,7 +23,7 @@ public final class RandomRunsTest {
     }
 
     public static void main(String[] args) {
-        for (int seed = 0; seed < 1500; seed++) {
+        for (int seed = 0; seed < 8000; seed++) {
             new RandomRunsTest(seed).play();
         }
         Check.finish();
@@ -41,24 +45,35 @@ public final class RandomRunsTest {
         for (int i = upTo(5); i > 0; i--) {
             newOfficer();
         }
-        for (int calls = 0; calls < 50; calls++) {
+        // What an object answers after its 512th call is free: most of them are asked at the end, some after each deed.
+        while (calls < 160) {
             one();
-            compare();
+            compare(upTo(6) == 0 ? 20 : 4);
         }
+        compare(400);
+    }
+
+    private void same(String what, long got, long want) {
+        calls++;
+        Check.same(what, got, want);
+    }
+
+    private void same(String what, boolean got, boolean want) {
+        same(what, got ? 1 : 0, want ? 1 : 0);
     }
 
     private void newTraveller() {
         int a = about(6);
         int b = about(10);
         int c = upTo(3) == 0 ? about(10000) : upTo(200);
-        Check.same(run + "traveller", x.traveller(a, b, c), m.traveller(a, b, c));
+        same(run + "traveller", x.traveller(a, b, c), m.traveller(a, b, c));
     }
 
     private void newOfficer() {
         int a = about(4);
         int b = about(10);
         int c = about(10);
-        Check.same(run + "officer", x.officer(a, b, c), m.officer(a, b, c));
+        same(run + "officer", x.officer(a, b, c), m.officer(a, b, c));
     }
 
     private void one() {
@@ -77,7 +92,7 @@ public final class RandomRunsTest {
                 a = about(5);
                 b = about(a < 3 ? 10 : 5);
                 c = upTo(2) == 0 ? about(10) : about(a == 0 ? 10000 : 100);
-                Check.same(run + "set", x.set(a, b, c), m.set(a, b, c));
+                same(run + "set", x.set(a, b, c), m.set(a, b, c));
                 break;
             case 2:
             case 3:
@@ -86,18 +101,18 @@ public final class RandomRunsTest {
                 a = upTo(3) == 0 ? about(6) : 0;
                 b = about(10);
                 c = about(4);
-                Check.same(run + "act", x.act(a, b, c), m.act(a, b, c));
+                same(run + "act", x.act(a, b, c), m.act(a, b, c));
                 break;
             case 6:
                 a = about(9);
                 b = about(5);
-                Check.same(run + "weigh", x.weigh(a, b), m.weigh(a, b));
+                same(run + "weigh", x.weigh(a, b), m.weigh(a, b));
                 break;
             case 7:
             case 8:
             case 9:
                 a = upTo(10) == 0 ? about(61) : upTo(4);
-                Check.same(run + "hours", x.hours(a), m.hours(a));
+                same(run + "hours", x.hours(a), m.hours(a));
                 break;
             case 10:
             case 11:
@@ -105,16 +120,16 @@ public final class RandomRunsTest {
                 break;
             case 12:
             case 13:
-                Check.same(run + "undo", x.undo(), m.undo());
+                same(run + "undo", x.undo(), m.undo());
                 break;
             case 14:
                 boolean taken = upTo(2) == 0;
-                Check.same(run + "image", x.image(taken), m.image(taken));
+                same(run + "image", x.image(taken), m.image(taken));
                 break;
             default:
                 a = dice.nextInt();
                 if (upTo(4) == 0) {
-                    Check.same(run + "state", x.state(a), m.state(a));
+                    same(run + "state", x.state(a), m.state(a));
                 }
         }
     }
@@ -133,9 +148,10 @@ public final class RandomRunsTest {
             text.setLength(400);
         }
         String told = text.toString();
-        Check.same(run + "text " + k + " '" + told + "'", Check.tell(x, k, told), m.text(k, told));
-        Check.same(run + "fault of '" + told + "'", x.fault(0), m.fault);
-        Check.same(run + "place in '" + told + "'", x.fault(1), m.place);
+        calls += told.length() / 20 + 2;
+        same(run + "text " + k + " '" + told + "'", Check.tell(x, k, told), m.text(k, told));
+        same(run + "fault of '" + told + "'", x.fault(0), m.fault);
+        same(run + "place in '" + told + "'", x.fault(1), m.place);
     }
 
     private void spoil(StringBuilder text, int k) {
@@ -209,7 +225,25 @@ public final class RandomRunsTest {
         return line.replace("-1", "1") + maybe() + ";" + maybe();
     }
 
-    private void compare() {
+    /** Asks so many things, at random; all of them if there are not so many. */
+    private void compare(int most) {
+        List<Runnable> asks = new ArrayList<>();
+        askLooks(asks);
+        askPeople(asks);
+        askOfficers(asks);
+        askBook(asks);
+        int n = about(upTo(10) == 0 ? 61 : 10);
+        for (int i = 0; i <= 4; i++) {
+            int what = i;
+            asks.add(() -> same(run + "goes " + n, x.goes(n, what), m.goes(n, what)));
+        }
+        Collections.shuffle(asks, dice);
+        for (int i = 0; i < most && i < asks.size() && calls < 510; i++) {
+            asks.get(i).run();
+        }
+    }
+
+    private void askLooks(List<Runnable> asks) {
         Model.World w = m.world;
         int open = 0;
         for (int g = 0; g < 4; g++) {
@@ -217,35 +251,51 @@ public final class RandomRunsTest {
         }
         int[] due = {w.people.size(), w.guards.size(), w.hour, w.treasury, w.basin, w.smuggled, open, m.outSet(),
             w.book.size(), w.state, m.law.size(), m.kin.size(), m.shifts.size(), m.roads.size(), m.undo.size(), -100000};
-        for (int what = 0; what < due.length; what++) {
-            Check.same(run + "look " + what, x.look(what), due[what]);
+        for (int i = 0; i < due.length; i++) {
+            int what = i;
+            asks.add(() -> same(run + "look " + what, x.look(what), due[what]));
         }
-        for (int t = 0; t < w.people.size(); t++) {
+    }
+
+    private void askPeople(List<Runnable> asks) {
+        Model.World w = m.world;
+        for (int i = 0; i < w.people.size(); i++) {
+            int t = i;
             Model.Person p = w.people.get(t);
             int[] of = {p.cause, p.grip, p.coin, p.wet, p.at, p.out, p.bond, m.kinOf(t), m.tells("weep", t, null), -2};
-            for (int what = 0; what < of.length; what++) {
-                Check.same(run + "of " + t + ", " + what, x.of(t, what), of[what]);
+            for (int k = 0; k < of.length; k++) {
+                int what = k;
+                asks.add(() -> same(run + "of " + t + ", " + what, x.of(t, what), of[what]));
             }
-            for (int o = 0; o < w.guards.size(); o++) {
-                Check.same(run + "rate of " + t + " by " + o, x.of(t, 10 + o), m.tells("rate", t, w.guards.get(o)));
-                Check.same(run + "find of " + t + " by " + o, x.of(t, 20 + o), m.tells("find", t, w.guards.get(o)));
+            for (int k = 0; k < w.guards.size(); k++) {
+                int o = k;
+                Model.Guard g = w.guards.get(o);
+                asks.add(() -> same(run + "rate of " + t + " by " + o, x.of(t, 10 + o), m.tells("rate", t, g)));
+                asks.add(() -> same(run + "find of " + t + " by " + o, x.of(t, 20 + o), m.tells("find", t, g)));
             }
         }
-        for (int o = 0; o < w.guards.size(); o++) {
-            Model.Guard g = w.guards.get(o);
+    }
+
+    private void askOfficers(List<Runnable> asks) {
+        for (int i = 0; i < m.world.guards.size(); i++) {
+            int o = i;
+            Model.Guard g = m.world.guards.get(o);
             int[] who = {g.gate, g.nose, g.soft, g.tired, -1};
-            for (int what = 0; what < who.length; what++) {
-                Check.same(run + "who " + o + ", " + what, x.who(o, what), who[what]);
+            for (int k = 0; k < who.length; k++) {
+                int what = k;
+                asks.add(() -> same(run + "who " + o + ", " + what, x.who(o, what), who[what]));
             }
         }
-        for (int i = 0; i <= w.book.size(); i++) {
-            for (int what = 0; what < 4; what++) {
-                Check.same(run + "book", x.book(i, what), i < w.book.size() ? w.book.get(i)[what] : -1);
+    }
+
+    private void askBook(List<Runnable> asks) {
+        List<int[]> book = m.world.book;
+        for (int k = Math.max(0, book.size() - 9); k <= book.size(); k++) {
+            int i = k;
+            for (int j = 0; j < 4; j++) {
+                int what = j;
+                asks.add(() -> same(run + "book", x.book(i, what), i < book.size() ? book.get(i)[what] : -1));
             }
-        }
-        int n = about(upTo(10) == 0 ? 61 : 10);
-        for (int what = 0; what <= 4; what++) {
-            Check.same(run + "goes " + n, x.goes(n, what), m.goes(n, what));
         }
     }
 }

@@ -76,6 +76,18 @@ final class ReckonBounds extends Bounds {
             // 55555 * 2 / 6 is 18518, 18518 / 6 is 3086, 3086 / 6 is 514; 166666 by 4 four times is 651.
             is("look by look", x.likely(1, 15), 514L * 1000000 / (514 + 5 * 651));
         });
+        // Of six q of 166666 each a sixth of a million is 166666 and a rest.
+        holds(29, "Quotients go downwards.", x -> {
+            int all = 0;
+            for (int cause = 0; cause < 6; cause++) {
+                all += x.likely(cause, 0);
+            }
+            is("the rests are gone", all, 999996);
+            x.count(0, 0, 1);
+            x.count(0, 1, 1);
+            // 166666 * 1 / 6 is 27777 and a rest; 27777 * 1000000 / 236107 is 117645 and a rest.
+            is("in each step", x.likely(0, 4), 117645);
+        });
         holds(29, "OF is that q of a million of all together, downwards (all 0: 0).", x -> {
             for (int cause = 0; cause < 6; cause++) {
                 x.count(cause, 3, 999);
@@ -99,6 +111,11 @@ final class ReckonBounds extends Bounds {
             is("the others are less by it, and alike", x.likely(NONE, 2), 0);
             x.count(5, 0, 6);
             is("the last", x.likely(NONE, 1), 5);
+            TearCustoms y = new TearCustoms();
+            for (int cause = 5; cause >= 0; cause--) {
+                y.count(cause, 3, 1);
+                is("each when it is the least of several", y.likely(NONE, 8), cause);
+            }
         });
     }
 

@@ -1,6 +1,10 @@
 /** Sentences that name boundary cases of promises 9 to 12: feed, end, text, fault. */
 final class TextBounds extends Bounds {
     private static final String[] LINE = {"weep 1;", "traveller 0 with 1;", "at 0 open 0;", "road 0 1 dry 0 wet 0;"};
+    private static final String WORDS = "weep rate find when or and not cause grip wet coin hour gate nose soft tired kin "
+            + "traveller with at send to open close move joke onion road dry";
+    private static final String DEEDS = " send open close move joke onion ";
+    private static final String ASKED = " cause grip wet coin hour gate nose soft tired kin ";
     private static final String[] WORD = {"find", "traveller", "at", "road"};
 
     private TextBounds() {
@@ -141,6 +145,14 @@ final class TextBounds extends Bounds {
                 x.text(4);
             });
         });
+        holds(11, "`int text(int k)`: The TAPE, empty then, is TEXT k", x -> {
+            x.traveller(0, 0, 0);
+            for (int i = 0; i < 5; i++) {
+                Check.fine(x, 0, "weep " + i + "+0".repeat(190) + ";", 1);
+                is("a long law anew", x.of(0, 8), i);
+                is("one line", x.look(10), 1);
+            }
+        });
         holds(11, "TEXTS (empty at first)", x -> {
             Seen.fill(x);
             for (int k = 0; k < 4; k++) {
@@ -280,10 +292,16 @@ final class TextBounds extends Bounds {
             Check.faulty(y, 3, "road 3 3 dry 1 wet 1;", 2, 7);
         });
         holds(11, "of several from one to another one the first line alone counts.)", x -> {
-            Check.fine(x, 3, "road 0 1 dry 1 wet 0; road 1 0 dry 40 wet 0; road 0 1 dry 99 wet 0;", 3);
-            is("the first one's", x.driest(0, 1, 1, 0), 0);
+            Check.fine(x, 3, "road 0 1 dry 4 wet 0; road 1 0 dry 30 wet 0; road 0 1 dry 99 wet 0;", 3);
+            is("the first one's", x.driest(0, 1, 4, 0), 0);
+            // 99, 95, 65, 61, 31, 27, 0.
             is("the first one's", x.driest(0, 1, 99, 1), 7);
             is("lines", x.look(13), 3);
+            Check.fine(x, 3, "road 0 1 dry 50 wet 3; road 2 1 dry 50 wet 2; road 0 2 dry 50 wet 7; road 0 1 dry 50 wet 0;", 4);
+            is("the first of its own two alone", x.driest(0, 1, 50, 0), 2);
+            is("another road to the same place", x.driest(0, 1, 50, 1), 2);
+            Check.fine(x, 3, "road 0 1 dry 0 wet 9; road 0 1 dry 0 wet 8; road 0 1 dry 0 wet 7;", 3);
+            is("the first of three", x.driest(0, 1, 0, 0), 9);
         });
         holds(11, "(either way; unlike.)", x -> {
             TearCustoms y = people();
@@ -304,6 +322,12 @@ final class TextBounds extends Bounds {
             faulty(0, "weep gri p;", 1, 5);
             faulty(0, "Weep 1;", 1, 0);
             faulty(0, "weep 1 whenever 1=1;", 1, 7);
+            for (char c : new char[] {'a', 'z', 'A', 'Z'}) {
+                faulty(0, "weep" + c + " 1;", 1, 0);
+            }
+            for (char c : new char[] {'@', '[', '`', '{', '_', '.'}) {
+                faulty(0, "weep" + c + " 1;", 1, 4);
+            }
             fine(0, "weep1when 1=1and 2=2or not 3=3;", 1);
             fine(1, "traveller0with1;", 1);
             fine(2, "at0send1to2;at7open3;", 2);
@@ -355,6 +379,9 @@ final class TextBounds extends Bounds {
             String full = "weep 1" + " ".repeat(394);
             faulty(0, full, 1, 400);
             fine(0, "weep 1" + " ".repeat(393) + ";", 1);
+            faulty(0, ";".repeat(400), 1, 0);
+            faulty(0, "weep 1" + "+1".repeat(197), 1, 400);
+            fine(0, "weep 1" + "+1".repeat(196) + "; ", 1);
             faulty(0, "weep 1;" + " ".repeat(392) + "x", 1, 399);
         });
         holds(11, "what can't stand there", x -> {
@@ -373,6 +400,24 @@ final class TextBounds extends Bounds {
             faulty(3, "road 0 1 wet 0 dry 0;", 1, 9);
             faulty(3, "road 0 1 dry 0 0;", 1, 15);
             faulty(3, "road 0 1 dry 0 wet;", 1, 18);
+        });
+        holds(11, "(those told here for that text)", x -> {
+            for (String word : WORDS.split(" ")) {
+                faulty(1, "traveller 0 " + (word.equals("with") ? "dry" : word) + " 1;", 1, 12);
+                if (!DEEDS.contains(" " + word + " ")) {
+                    faulty(2, "at 0 " + word + " 0;", 1, 5);
+                }
+                faulty(2, "at 0 send 0 " + (word.equals("to") ? "with" : word) + " 0;", 1, 12);
+                faulty(3, "road 0 1 " + (word.equals("dry") ? "to" : word) + " 0 wet 0;", 1, 9);
+                faulty(3, "road 0 1 dry 0 " + (word.equals("wet") ? "to" : word) + " 0;", 1, 15);
+                if (!ASKED.contains(" " + word + " ")) {
+                    faulty(0, "weep " + word + ";", 1, 5);
+                    faulty(0, "weep 1+" + word + ";", 1, 7);
+                }
+                if (!word.equals("weep") && !word.equals("rate") && !word.equals("find")) {
+                    faulty(0, word + " 1;", 1, 0);
+                }
+            }
         });
     }
 

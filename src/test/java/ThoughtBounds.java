@@ -74,6 +74,16 @@ final class ThoughtBounds extends Bounds {
                 is("2 hours, " + what, x.goes(2, what), hour2[what]);
             }
             is("all bonded, then out", x.goes(6, 1), 12);
+            TearCustoms y = new TearCustoms();
+            y.traveller(5, 3, 100);
+            y.officer(2, 7, 4);
+            y.set(1, 0, 2);
+            y.set(3, 0, 8);
+            y.act(0, 0, 2);
+            Check.fine(y, 0, "find 500 when nose=7 and soft=4 and tired=8 and grip=3 and gate=2; find 0;", 2);
+            is("rate by cause", y.goes(1, 0), 12);
+            y.act(5, 2, 0);
+            is("closed", y.goes(60, 1), 0);
             is("none is bonded then", x.goes(6, 3), 0);
             is("five hours: the last four are bonded", x.goes(5, 3), 4);
         });
@@ -118,7 +128,11 @@ final class ThoughtBounds extends Bounds {
             is("out", x.rate(1), 0);
         });
         holds(17, "of those with COIN for it alone", x -> {
-            x.traveller(0, 0, 20);
+            x.traveller(0, 0, 1);
+            x.set(1, 0, 1);
+            is("one of one", x.rate(0), 1);
+            is("one of one", x.rate(1), 1);
+            x.set(0, 0, 20);
             x.set(1, 0, 10);
             is("all of it", x.rate(0), 2);
             is("all of it", x.rate(1), 20);
@@ -224,6 +238,11 @@ final class ThoughtBounds extends Bounds {
             x.order(9, 6, 1);
             x.order(0, 1, 6);
             is("three with 6 an hour", x.ordered(1), 1);
+            x.order(NONE, 0, 0);
+            x.order(0, 5, 1);
+            x.order(0, 3, 2);
+            is("one more an hour goes first", x.ordered(1), 1);
+            is("and the other one waits", x.ordered(0), 5);
             x.order(NONE, 0, 0);
             x.order(99, 0, 9);
             x.order(1, 0, 1);
@@ -366,6 +385,18 @@ final class ThoughtBounds extends Bounds {
             }
             is("full to the last", x.crates(11, 0), 3);
             is("one less", x.crates(10, 0), 4);
+            x.weight(NONE);
+            x.weight(40);
+            x.weight(40);
+            x.weight(19);
+            is("99 in one of 99", x.crates(99, 0), 1);
+            is("98 is too small", x.crates(98, 0), 2);
+            x.weight(NONE);
+            for (int i = 1; i <= 8; i++) {
+                x.weight(1);
+                is("each in one of its own", x.crates(1, 0), i);
+                is("all in one", x.crates(8, 0), 1);
+            }
         });
         holds(23, "how many of the weights fit one crate at most (the most of them)", x -> {
             is("none", x.crates(99, 1), 0);
@@ -382,6 +413,17 @@ final class ThoughtBounds extends Bounds {
             x.weight(20);
             x.weight(21);
             is("too heavy", x.crates(20, 0), NONE);
+            x.weight(19);
+            is("one of three is too heavy", x.crates(20, 0), NONE);
+            x.weight(NONE);
+            x.weight(40);
+            is("one alone is too heavy", x.crates(39, 0), NONE);
+            is("none fits", x.crates(39, 1), 0);
+            x.weight(20);
+            is("the first of two is too heavy", x.crates(39, 0), NONE);
+            x.weight(NONE);
+            x.weight(20);
+            x.weight(21);
             is("one fits all the same", x.crates(20, 1), 1);
             is("not too heavy", x.crates(21, 0), 2);
             for (int what : new int[] {-1, 2, LEAST, MOST}) {
@@ -569,6 +611,12 @@ final class ThoughtBounds extends Bounds {
             is("round about", x.driest(0, 1, 9, 0), 5);
             is("by two", x.driest(0, 1, 9, 1), 2);
             is("of the same the fewest roads", x.driest(0, 1, 0, 1), 1);
+            String[] ways = {"road 0 1 dry 0 wet 5;road 1 3 dry 0 wet 0;", "road 0 2 dry 0 wet 4;road 2 3 dry 0 wet 0;"};
+            Check.fine(x, 3, ways[0] + ways[1], 4);
+            is("of two by as many roads the drier one", x.driest(0, 3, 0, 0), 4);
+            Check.fine(x, 3, ways[1] + ways[0], 4);
+            is("told the other way round", x.driest(0, 3, 0, 0), 4);
+            Check.fine(x, 3, "road 0 1 dry 0 wet 5; road 0 2 dry 0 wet 4; road 1 3 dry 0 wet 0; road 2 3 dry 0 wet 0;", 4);
             is("dry", x.driest(0, 1, 0, 0), 5);
         });
         holds(27, "(alike: w, 0 roads can be)", x -> {

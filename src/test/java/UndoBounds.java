@@ -56,6 +56,24 @@ final class UndoBounds extends Bounds {
             is("no such line", x.book(lines, 0), NONE);
             is("the line before it", x.book(lines - 1, 2), 0);
         });
+        holds(38, "WEIGHING not undone yet goes back", x -> {
+            x.traveller(0, 0, 10);
+            x.officer(0, 0, 0);
+            x.set(1, 0, 4);
+            String[] laws = {"find 0;", "find 1000; rate 1;", "find 1000; rate 9;"};
+            int[][] due = {{0, 0, 4}, {4, 4, 0}, {10, 4, 0}};
+            for (int i = 0; i < laws.length; i++) {
+                Check.tell(x, 0, laws[i]);
+                x.weigh(0, 0);
+                for (int what = 3; what <= 5; what++) {
+                    is("look(" + what + ")", x.look(what), due[i][what - 3]);
+                }
+                is("undo", x.undo(), true);
+                for (int what = 3; what <= 5; what++) {
+                    is("look(" + what + ") as it was", x.look(what), 0);
+                }
+            }
+        });
     }
 
     private static void sixAreKept() {
@@ -278,7 +296,9 @@ final class UndoBounds extends Bounds {
         x.hours(3);
         x.act(5, 2, 0);
         x.act(3, 0, 0);
-        x.weigh(1, 1);
+        Check.tell(x, 0, "find 0;");
+        x.set(1, 2, 9);
+        is("smuggled", x.weigh(2, 1), 0);
         for (int what = 0; what < 5; what++) {
             x.set(what, 1, 1);
         }
@@ -294,8 +314,10 @@ final class UndoBounds extends Bounds {
         x.count(0, 0, 500);
         x.count(3, 2, 0);
         x.salt(NONE);
-        x.ledger(6, 0);
         x.years(30, 0);
+        for (int k = 0; k < 24; k++) {
+            x.ledger(k, 1);
+        }
     }
 
     private static void imageOfAll() {
@@ -305,6 +327,7 @@ final class UndoBounds extends Bounds {
             x.undo();
             x.fault(0);
             Check.fine(x, 0, "weep 3; find 700;", 2);
+            is("at no gate", x.of(2, 4), NONE);
             x.image(true);
             unchanged(x, () -> {
                 changeAll(x);
@@ -331,7 +354,10 @@ final class UndoBounds extends Bounds {
             is("full", x.look(8), 150);
             is("line 149", x.book(149, 2), last);
             is("line 149", x.book(149, 0), hour);
-            is("line 146", x.book(146, 0), hour);
+            int[] who = {0, 1, 2, 3};
+            for (int i = 0; i < 4; i++) {
+                is("line " + (146 + i), x.book(146 + i, 2), who[i]);
+            }
         });
     }
 

@@ -16,7 +16,7 @@ public final class WildTest {
     }
 
     public static void main(String[] args) {
-        for (int seed = 0; seed < 600; seed++) {
+        for (int seed = 0; seed < 2500; seed++) {
             new WildTest(seed).play(seed);
         }
         Check.finish();
@@ -32,11 +32,13 @@ public final class WildTest {
 
     private void play(int seed) {
         TearCustoms x = new TearCustoms();
-        for (int i = 0; i < 512; i++) {
+        // A text takes up to six calls, so that an object is not used for more than the 512 that are promised.
+        for (int i = 0; i < 120; i++) {
             int call = dice.nextInt(44);
             try {
                 one(x, call);
-                Check.same("hour", x.look(2) >= 0 && x.look(2) <= 9999, true);
+                int hour = x.look(2);
+                Check.same("hour", hour >= 0 && hour <= 9999, true);
             } catch (RuntimeException | StackOverflowError e) {
                 Check.same("seed " + seed + ", call " + call + ": " + e, true, false);
             }
