@@ -143,7 +143,7 @@ final class AnswerBounds extends Bounds {
             is("2 to the 31 is below 0", tells(x, "find 5 when 1024*1024*2048<0;", 20), 5);
             is("2 to the 32 is 0", tells(x, "find 6 when 1024*1024*4096=0;", 20), 6);
             is("sums wrap too", tells(x, "find 7 when 1024*1024*2047+1024*1024<0;", 20), 7);
-            is("and differences", tells(x, "find 8 when 0-1024*1024*2048-1>0;", 20), 8);
+            is("and differences", tells(x, "find 8 when 1024*1024*2048-1>0;", 20), 8);
         });
         // Only what has wrapped is below 0 ahead of a /: 1024 * 1024 * 4095 is -1048576.
         holds(13, "/ goes towards 0", x -> {

@@ -340,6 +340,21 @@ final class TextBounds extends Bounds {
             faulty(0, "weep dry;", 1, 5);
             faulty(2, "at 0 weep 0;", 1, 5);
         });
+        holds(11, "; + - * / ( ) < = > . Blanks (32, 10) between.", x -> {
+            for (int c = 0; c < 256; c++) {
+                String text = "weep 1" + (char) c;
+                if (c == ';') {
+                    fine(0, text, 1);
+                } else {
+                    boolean goesOn = c == ' ' || c == '\n' || c == '+' || c == '-' || c == '*' || c == '/' || c >= '0' && c <= '9';
+                    faulty(0, text, 1, goesOn ? 7 : 6);
+                }
+                boolean comparison = c == '<' || c == '=' || c == '>';
+                if (comparison) {
+                    fine(0, "weep 1 when 1" + (char) c + "1;", 1);
+                }
+            }
+        });
         holds(11, "Blanks (32, 10) between.", x -> {
             fine(0, " \n\n  weep \n 1 \n ; \n", 1);
             fine(0, "weep 1+1;", 1);

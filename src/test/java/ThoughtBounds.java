@@ -268,6 +268,15 @@ final class ThoughtBounds extends Bounds {
             }
             is("two", x.hands(0), 2);
         });
+        holds(20, "HANDS: children and grown ones by told couples, up to 16", x -> {
+            for (int i = 0; i < 16; i++) {
+                is("hand", x.hand(i / 6, i % 6), i + 1);
+            }
+            is("three children with any of six or four", x.hands(0), 3);
+            is("the last ones count too", x.hands(1), 5 * 4 * 4);
+            is("a seventeenth", x.hand(3, 3), NONE);
+            is("counts not", x.hands(0), 3);
+        });
         holds(20, "(a NONE: none is then)", x -> {
             is("of none", x.hand(NONE, 0), 0);
             x.hand(1, 1);
@@ -497,6 +506,22 @@ final class ThoughtBounds extends Bounds {
             x.act(5, 0, 0);
             unchanged(x, () -> is("a seventh", x.weighed(2, 8), NONE));
             is("suspects", x.suspects(0), 6);
+        });
+        holds(25, "WEIGHED, up to 6 told: a set of BAGS weighed so much together.", x -> {
+            for (int i = 0; i < 7; i++) {
+                x.bag(10 + i);
+            }
+            for (int i = 0; i < 6; i++) {
+                is("weighed", x.weighed(1 << i, 10 + i), i + 1);
+                is("one less", x.suspects(0), 127 & -2 << i);
+            }
+            is("a seventh", x.weighed(64, 16), NONE);
+            is("does not count", x.suspects(0), 64);
+            is("another bag", x.bag(1), 8);
+            is("is a suspect", x.suspects(0), 192);
+            is("none", x.bag(NONE), 0);
+            is("a bag", x.bag(1), 1);
+            is("the first weighing", x.weighed(1, 8), 1);
         });
         holds(25, "(other bits)", x -> {
             for (int i = 1; i <= 10; i++) {
